@@ -216,6 +216,11 @@ public final class ChancesTest {
         x.chance(0, 1, 0);
         DUE.is("surely not", x.can(0), 0);
         DUE.is("surely", x.can(1), 2);
+        x.cup(2);
+        x.put(0, 0);
+        x.put(1, 1);
+        x.chance(0, 1, 1);
+        DUE.is("not surely against 1", x.can(1), 1);
     }
 
     private static void canOfResults() {

@@ -32,6 +32,11 @@ public final class CountTest {
         DUE.is("places that are not empty", x.count(2), 3);
         DUE.is("matches that are decided", x.count(3), 1);
         DUE.is("pairs that are apart", x.count(4), 3);
+        x.players(8);
+        x.apart(0, 1, 2);
+        DUE.is("one pair of 8", x.count(4), 1);
+        x.apart(6, 7, 3);
+        DUE.is("two pairs of 8", x.count(4), 2);
     }
 
     private static void countOutside() {

@@ -136,6 +136,9 @@ public final class CupTest {
         DUE.is("decided already", x.won(0, 0), CupDraws.STATE);
         DUE.is("one side is open", x.won(4, 0), CupDraws.STATE);
         x.won(1, 3);
+        x.open(0);
+        DUE.is("the other side is open", x.won(4, 3), CupDraws.STATE);
+        x.won(0, 0);
         DUE.is("who lost below", x.won(4, 1), CupDraws.STATE);
         DUE.is("who won below", x.won(4, 3), 3);
         DUE.is("the final's other side is open", x.won(6, 3), CupDraws.STATE);

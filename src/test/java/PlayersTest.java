@@ -28,6 +28,9 @@ public final class PlayersTest {
         for (int match = 0; match < 7; match++) {
             DUE.is("kind of match " + match, x.match(match, 1), 0);
         }
+        DUE.is("draws as the first call", new CupDraws().draws(), 3);
+        DUE.is("best as the first call", new CupDraws().best(1, true), 0);
+        DUE.isFraction("mean as the first call", new CupDraws().mean(0, true), new CupDraws().mean(0, false), 1, 2);
         DUE.is("a chance at first", x.chance(1, 0, 3), 6);
         DUE.is("apart at first", x.apart(1, 0, 2), 1);
     }

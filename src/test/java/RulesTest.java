@@ -38,6 +38,19 @@ public final class RulesTest {
         DUE.is("OUTSIDE", CupDraws.OUTSIDE, -2);
         DUE.is("STATE", CupDraws.STATE, -3);
         DUE.is("NONE", CupDraws.NONE, -9);
+        for (String name : new String[] {"UNKNOWN", "OUTSIDE", "STATE", "NONE"}) {
+            DUE.is(name + " is a public constant int", isPublicConstant(name) ? 1 : 0, 1);
+        }
+    }
+
+    private static boolean isPublicConstant(String name) {
+        for (Field field : CupDraws.class.getFields()) {
+            int modifiers = field.getModifiers();
+            if (field.getName().equals(name)) {
+                return field.getType() == int.class && Modifier.isStatic(modifiers) && Modifier.isFinal(modifiers);
+            }
+        }
+        return false;
     }
 
     private static void methods() {
@@ -45,19 +58,24 @@ public final class RulesTest {
         for (Method method : CupDraws.class.getDeclaredMethods()) {
             if (Modifier.isPublic(method.getModifiers())) {
                 String parameters = Arrays.toString(method.getParameterTypes());
+                DUE.is(method.getName() + " is an object's", Modifier.isStatic(method.getModifiers()) ? 1 : 0, 0);
                 found.add(method.getReturnType() + " " + method.getName() + "("
                         + parameters.substring(1, parameters.length() - 1) + ")");
             }
         }
         DUE.is("the methods " + found, found.equals(FACE) ? 1 : 0, 1);
         DUE.is("the class is final", Modifier.isFinal(CupDraws.class.getModifiers()) ? 1 : 0, 1);
+        DUE.is("the class is public", Modifier.isPublic(CupDraws.class.getModifiers()) ? 1 : 0, 1);
         DUE.is("constructors", CupDraws.class.getConstructors().length, 1);
+        DUE.is("its parameters", CupDraws.class.getConstructors()[0].getParameterCount(), 0);
     }
 
     private static void hidden() {
         int shown = 0;
         for (Field field : CupDraws.class.getDeclaredFields()) {
             shown += Modifier.isPrivate(field.getModifiers()) ? 0 : 1;
+            // Rule 5: no other state than an object's own.
+            DUE.is(field + " is final, if it is the class's", isStaticAndChanges(field) ? 1 : 0, 0);
         }
         DUE.is("fields that are not private", shown, 4);
         for (Method method : CupDraws.class.getDeclaredMethods()) {
@@ -68,6 +86,10 @@ public final class RulesTest {
         for (Constructor<?> constructor : CupDraws.class.getDeclaredConstructors()) {
             DUE.is("a public constructor", Modifier.isPublic(constructor.getModifiers()) ? 1 : 0, 1);
         }
+    }
+
+    private static boolean isStaticAndChanges(Field field) {
+        return Modifier.isStatic(field.getModifiers()) && !Modifier.isFinal(field.getModifiers());
     }
 
     private static void classesInside() {
